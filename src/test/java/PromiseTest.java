@@ -415,6 +415,17 @@ public final class PromiseTest {
         due("gone cell", x.gone(24), BEYOND);
         due("gone cell", x.gone(-1), BEYOND);
         due("nothing changed", x.now(1), 4);
+        PrintShore y = shoreOf("reach 24;horse at 2 out stride 5;walker at 12 stride 5 weight 9");
+        y.go(15);
+        due("gone behind 201 is too late", y.gone(0), NONE);
+        y.go(1);
+        due("gone behind 200", y.gone(0), 200);
+        for (int i = 0; i < 199; i++) {
+            y.go(1);
+            due("not gone yet", y.cell(0, 0) == -1 ? 1 : 0, 0);
+        }
+        y.go(1);
+        due("gone now", y.cell(0, 0), -1);
     }
 
     private static void promise16Meet() {
@@ -707,9 +718,10 @@ public final class PromiseTest {
             "reach 2 out", "reach reach", "print 0 0 0", "walker;print 24 0 0", "walker;print 0 1 0", "walker;print 0 0 10",
             "walker;print 0 0", "walker;print 0 0 1 out out", ";", "walker;;walker", "Walker", "walker,child", "walker at -1",
             "wal ker", "walkerat 1", "walker\tat 1", "7", "walker 7", "out", "walker \u00ff", "reach 1 2", "reach 1 walker",
-            "walker;print 0 0 1;print 1 1 1", "walker;reach 99999999999999999999"};
+            "walker;print 0 0 1;print 1 1 1", "walker;reach 99999999999999999999", "walkerz", "awalker", "`walker", "walker{",
+            "walker at 1/", "walker at 1:", "walker at 1 child"};
         int[] faults = {0, 3, 7, 8, 9, 10, 10, 10, 10, 14, 14, 14, 14, 16, 11, 11, 12, 5, 6, 8, 6, 8, 13, 15, 17, 16, 23, 0, 7,
-            0, 6, 10, 0, 0, 6, 0, 7, 0, 7, 8, 8, 27, 13};
+            0, 6, 10, 0, 0, 6, 0, 7, 0, 7, 8, 8, 27, 13, 0, 0, 0, 6, 11, 11, 12};
         for (int i = 0; i < texts.length; i++) {
             PrintShore x = new PrintShore();
             due("fault of '" + texts[i] + "'", read(x, texts[i]), -1 - faults[i]);
@@ -843,6 +855,9 @@ public final class PromiseTest {
         due("loaded", x.of(2, 3), 5);
         fill(x, 0);
         due("an empty sheet", x.load(0), 0);
+        PrintShore y = shoreOf("walker;walker;walker;walker;walker;walker;walker;walker");
+        fill(y, 0, 2, 2, 2, 2, 2, 2, 2, 2, 2);
+        due("no 9th walker", y.load(0), 8);
     }
 
     private static void promise39Judge() {
