@@ -4,7 +4,6 @@ public final class PromiseTest {
     private static final int FULL = -1000002;
     private static final int KIND = -1000003;
     private static final int NONE = -1000004;
-    private static final int STATE = -1000005;
     private static final int MISSING = -1000006;
     private static final int SIZE = -1000007;
     private static final int LEAST = Integer.MIN_VALUE;
@@ -283,39 +282,6 @@ public final class PromiseTest {
         due("rider", z.of(4, 1), 10);
     }
 
-    private static void promise9Limits() {
-        PrintShore x = new PrintShore();
-        for (int i = 0; i < 8; i++) {
-            x.walker(RUNNER, 0);
-        }
-        for (int i = 0; i < 480; i++) {
-            x.go(60);
-        }
-        due("hour", x.now(0), 28800);
-        due("quoted 99999 at most", x.now(2), 99999);
-        due("censor of a full count: the least", x.censor(0), 0);
-    }
-
-    /** No 512 calls come to hour 99999; this looks at the bound all the same. */
-    private static void promise9And27State() {
-        PrintShore x = shoreOf("walker;child");
-        for (int i = 0; i < 1666; i++) {
-            x.go(60);
-        }
-        due("hour would be above", x.go(40), STATE);
-        due("hour as it was", x.now(0), 99960);
-        x.go(30);
-        due("hour would be above", x.tides(10), STATE);
-        due("beyond before state", x.tides(21), BEYOND);
-        due("no draw", x.count(6), 1);
-        due("tides to the last hour", x.tides(9) >= 0 ? 1 : 0, 1);
-        due("the last hour", x.now(0), 99999);
-        due("hour would be above", x.go(1), STATE);
-        due("beyond before state", x.go(61), BEYOND);
-        due("state counted", x.status(4), 3);
-        due("ahead of the last hour", x.ahead(0, 0, 100) >= -1 ? 1 : 0, 1);
-    }
-
     private static void promise10Now() {
         PrintShore x = shoreOf("walker;walker;walker;print 1 2 3;print 2 1 4;print 3 1 5;print 23 2 0");
         due("now prints", x.now(1), 4);
@@ -415,17 +381,6 @@ public final class PromiseTest {
         due("gone cell", x.gone(24), BEYOND);
         due("gone cell", x.gone(-1), BEYOND);
         due("nothing changed", x.now(1), 4);
-        PrintShore y = shoreOf("reach 24;horse at 2 out stride 5;walker at 12 stride 5 weight 9");
-        y.go(15);
-        due("gone behind 201 is too late", y.gone(0), NONE);
-        y.go(1);
-        due("gone behind 200", y.gone(0), 200);
-        for (int i = 0; i < 199; i++) {
-            y.go(1);
-            due("not gone yet", y.cell(0, 0) == -1 ? 1 : 0, 0);
-        }
-        y.go(1);
-        due("gone now", y.cell(0, 0), -1);
     }
 
     private static void promise16Meet() {
@@ -1003,8 +958,6 @@ public final class PromiseTest {
         promise7Of();
         promise8Change();
         promise9Go();
-        promise9Limits();
-        promise9And27State();
         promise10Now();
         promise11Line();
         promise12Ahead();
