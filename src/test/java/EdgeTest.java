@@ -2,50 +2,8 @@
  * The boundary cases of the document, a sentence each: least and greatest values, the empty and the full, what is cut,
  * what wraps around, what stops at its bound. What is refused is RefusedTest's.
  */
-public final class EdgeTest {
-    private static final int BEYOND = -1000001;
-    private static final int FULL = -1000002;
-    private static final int NONE = -1000004;
-    private static final int STATE = -1000005;
-    private static final int MISSING = -1000006;
+public final class EdgeTest extends ShoreTest {
     private static final int ALL = (1 << 24) - 1;
-    private static final int LEAST = Integer.MIN_VALUE;
-    private static final int MOST = Integer.MAX_VALUE;
-    private static final int WALKER = 0;
-    private static final int CHILD = 1;
-    private static final int CARTER = 2;
-    private static final int HORSE = 3;
-    private static final int RIDER = 4;
-    private static final int THIEF = 5;
-    private static final int RUNNER = 6;
-
-    private static int wrong = 0;
-    private static int checks = 0;
-
-    private static void due(String sentence, long got, long want) {
-        checks++;
-        if (got != want) {
-            wrong++;
-            System.out.println(sentence + ": " + got + ", due is " + want);
-        }
-    }
-
-    private static void feed(PrintShore x, String text) {
-        for (int i = 0; i < text.length(); i++) {
-            x.feed(text.charAt(i), 1);
-        }
-    }
-
-    private static int read(PrintShore x, String text) {
-        feed(x, text);
-        return x.text();
-    }
-
-    private static PrintShore shoreOf(String text) {
-        PrintShore x = new PrintShore();
-        due("'" + text + "' is a text", read(x, text) > 0 ? 1 : 0, 1);
-        return x;
-    }
 
     private static PrintShore shoreOfOne(int kind, int cell, int way, int stride, int weight) {
         PrintShore x = new PrintShore();
@@ -54,13 +12,6 @@ public final class EdgeTest {
         x.change(0, 3, stride);
         x.change(0, 4, weight);
         return x;
-    }
-
-    private static void fill(PrintShore x, int s, int bits, int... numbers) {
-        x.sheet(s, bits, numbers.length);
-        for (int i = 0; i < numbers.length; i++) {
-            x.write(s, i, numbers[i]);
-        }
     }
 
     // ---- terms: shore
@@ -107,28 +58,47 @@ public final class EdgeTest {
         }
         x.reach(0);
         x.go(48);
-        int calls = 10;
-        int before = x.now(2);
-        while (before + 480 <= 99999) {
+        int quoted = x.now(2);
+        while (quoted + 480 <= 99999) {
             x.go(60);
-            due("8 an hour", x.now(2), before + 480);
-            before += 480;
-            calls += 2;
+            quoted += 480;
+        }
+        due("8 an hour", x.now(2), quoted);
+        while (quoted + 8 <= 99999) {
+            x.go(1);
+            quoted += 8;
+            due("8 an hour", x.now(2), quoted);
         }
         x.image();
-        while (before + 8 <= 99999) {
-            x.go(1);
-            before += 8;
-            due("8 an hour", x.now(2), before);
-            calls += 2;
-        }
         x.go(1);
         due("99999 at most", x.now(2), 99999);
         due("99999 at most", x.count(3), 99999);
         x.go(1);
         due("99999 at most", x.now(2), 99999);
         due("censor: all at the bound, the least", x.censor(40), 0);
-        due("within 512 calls", calls < 505 ? 1 : 0, 1);
+        x.undo();
+        due("one below the bound can be made", quoted >= 99992 && quoted <= 99998 ? 1 : 0, 1);
+        // So many as are to quote follow the first of them, each upon the print of the one before.
+        scatter(x, 99998 - quoted + 1);
+        x.go(1);
+        due("one below the bound", x.now(2), 99998);
+        scatter(x, 1);
+        x.print(5 * 2 + 1, 0, 0);
+        due("censor: 5 comes upon a print, and without it one is below the bound", x.censor(1), 5);
+        x.go(1);
+        due("the bound itself", x.now(2), 99999);
+    }
+
+    /** A shore without prints, eight who stride 1, the first ones together at 0 and each other one by itself. */
+    private static void scatter(PrintShore x, int together) {
+        for (int cell = 0; cell < 24; cell++) {
+            x.print(cell, -1, 0);
+        }
+        for (int i = 0; i < 8; i++) {
+            x.change(i, 0, WALKER);
+            x.change(i, 1, i < together ? 0 : 2 * i);
+            x.change(i, 2, 1);
+        }
     }
 
     private static void stepsStopAtTheirBound() {
@@ -522,6 +492,14 @@ public final class EdgeTest {
         }
         PrintShore x = shoreOf("walker at 1;walker at 10;walker at 11");
         due("censor: 2 is quoted by 1 each hour: 1 and 2 alike", x.censor(3), 1);
+        // Each treads its own deep print down, and the tide takes it before the other one comes: none is quoted.
+        // Whoever stays away leaves it to the other one; it has to be one of the two all the same.
+        PrintShore y = new PrintShore();
+        y.go(5);
+        read(y, "thief at 3;thief at 6 out;print 4 0 9;print 5 1 9;reach 24");
+        due("censor: nobody away would be better, of the two the least", y.censor(2), 0);
+        y.go(2);
+        due("none was quoted", y.now(2), 0);
     }
 
     private static void greatestStrideCellAndKind() {
@@ -613,7 +591,7 @@ public final class EdgeTest {
         java.util.Arrays.fill(any, -1);
         fill(x, 0, 8, any);
         guess(x, "any everywhere", 6, 1, 127);
-        fill(x, 0, 8);
+        fill(x, 0, 8, new int[] {});
         guess(x, "a sheet of no numbers", 6, 1, 127);
         int[] behind = any.clone();
         java.util.Arrays.fill(behind, 24, 40, 1);
@@ -626,28 +604,28 @@ public final class EdgeTest {
         fill(x, 0, 8, behind);
         guess(x, "the 24th has none of it", 6, 1, 127);
         // Behind an hour a stride is its cell; a horse comes to 1, a rider to 3, a runner to 2.
-        fill(x, 0, 8, 0, 0, 0, 0, 0, 0, 1);
+        fill(x, 0, 8, new int[] {0, 0, 0, 0, 0, 0, 1});
         guess(x, "the greatest stride alone", 1, 6, 0);
-        fill(x, 0, 8, 0, 1);
+        fill(x, 0, 8, new int[] {0, 1});
         guess(x, "the least stride alone", 1, 1, 1 << WALKER | 1 << CHILD | 1 << CARTER | 1 << HORSE | 1 << THIEF);
-        fill(x, 0, 8, -1, 0);
+        fill(x, 0, 8, new int[] {-1, 0});
         guess(x, "all strides but the least", 5, 2, 1 << RIDER | 1 << RUNNER);
-        fill(x, 0, 8, 0, 0, 1, 0);
+        fill(x, 0, 8, new int[] {0, 0, 1, 0});
         guess(x, "a runner alone", 1, 2, 1 << RUNNER);
-        fill(x, 0, 8, 1);
+        fill(x, 0, 8, new int[] {1});
         guess(x, "none", 0, NONE, 0);
-        fill(x, 0, 8, -1, 2);
+        fill(x, 0, 8, new int[] {-1, 2});
         guess(x, "2 is never so", 0, NONE, 0);
-        fill(x, 0, 8, -1, -2);
+        fill(x, 0, 8, new int[] {-1, -2});
         guess(x, "-2 is never so", 0, NONE, 0);
         // Of 8 bits 255 is -1, and 257 is 1; of 16 they aren't.
-        fill(x, 0, 8, 255, 257);
+        fill(x, 0, 8, new int[] {255, 257});
         guess(x, "numbers with their sign", 1, 1, 1 << WALKER | 1 << CHILD | 1 << CARTER | 1 << HORSE | 1 << THIEF);
-        fill(x, 0, 16, 255);
+        fill(x, 0, 16, new int[] {255});
         guess(x, "255 of 16 bits", 0, NONE, 0);
-        fill(x, 0, 16, 65535, 65537);
+        fill(x, 0, 16, new int[] {65535, 65537});
         guess(x, "numbers with their sign", 1, 1, 1 << WALKER | 1 << CHILD | 1 << CARTER | 1 << HORSE | 1 << THIEF);
-        fill(x, 0, 32, 65535);
+        fill(x, 0, 32, new int[] {65535});
         guess(x, "65535 of 32 bits", 0, NONE, 0);
         due("another's print is none of it", another().fits(0, 0, 0), 6);
         due("another's print is none of it", another().fits(0, 1, 0), 0);
@@ -655,7 +633,7 @@ public final class EdgeTest {
 
     private static PrintShore another() {
         PrintShore x = shoreOf("walker;walker;print 0 1 5");
-        fill(x, 0, 8, 0);
+        fill(x, 0, 8, new int[] {0});
         return x;
     }
 
@@ -961,14 +939,14 @@ public final class EdgeTest {
 
     private static void copiesAsTheyAllWere() {
         PrintShore x = shoreOf("walker;walker;walker;walker;walker;walker");
-        fill(x, 0, 8, 1, 2, 3, 4, 5, 6);
+        fill(x, 0, 8, new int[] {1, 2, 3, 4, 5, 6});
         due("forward upon itself", x.copy(0, 0, 0, 1, 5), 5);
         strides(x, 112345);
         due("back upon itself", x.copy(0, 1, 0, 0, 5), 5);
         strides(x, 123455);
         due("upon its own place", x.copy(0, 0, 0, 0, 6), 6);
         strides(x, 123455);
-        fill(x, 1, 8, 6, 6, 6);
+        fill(x, 1, 8, new int[] {6, 6, 6});
         due("from the last", x.copy(1, 2, 0, 5, 1), 1);
         strides(x, 123456);
         due("to the first", x.copy(1, 0, 0, 0, 3), 3);
@@ -992,23 +970,23 @@ public final class EdgeTest {
     private static void loadsToTheFirstThatCant() {
         PrintShore x = shoreOf("walker;walker;walker");
         for (int v : new int[] {0, 7, -1, LEAST, MOST, 257, 99}) {
-            fill(x, 0, 32, 1, v, 2);
+            fill(x, 0, 32, new int[] {1, v, 2});
             due("load ends at " + v, x.load(0), 1);
             due("the one before came", x.of(0, 3), 1);
-            fill(x, 0, 32, v, 6, 6);
+            fill(x, 0, 32, new int[] {v, 6, 6});
             due("load ends at once at " + v, x.load(0), 0);
-            fill(x, 0, 32, 6, 6, v);
+            fill(x, 0, 32, new int[] {6, 6, v});
             due("load ends at the last " + v, x.load(0), 2);
             due("two came", x.of(0, 3) * 100 + x.of(1, 3) * 10 + x.of(2, 3), 661);
             x.change(1, 3, 1);
         }
-        fill(x, 0, 8, 1, 6, 1);
+        fill(x, 0, 8, new int[] {1, 6, 1});
         due("as many as there are", x.load(0), 3);
-        fill(x, 0, 8, 2, 3, 4, 5);
+        fill(x, 0, 8, new int[] {2, 3, 4, 5});
         due("no 4th walker", x.load(0), 3);
         due("three came", x.of(0, 3) * 100 + x.of(1, 3) * 10 + x.of(2, 3), 234);
         PrintShore none = new PrintShore();
-        fill(none, 0, 8, 1);
+        fill(none, 0, 8, new int[] {1});
         due("no walker at all", none.load(0), 0);
         PrintShore eight = shoreOf("child;child;child;child;child;child;child;child");
         eight.sheet(0, 8, 40);
@@ -1040,7 +1018,7 @@ public final class EdgeTest {
         due("there is no cell 24", x.judge(1), 25);
         x.write(1, 23, 1);
         due("the first that isn't so", x.judge(1), 24);
-        fill(x, 2, 32);
+        fill(x, 2, 32, new int[] {});
         due("a sheet of no numbers is so", x.judge(2), 0);
     }
 
@@ -1054,7 +1032,7 @@ public final class EdgeTest {
         x.seed(99);
         x.hold(9, 1);
         x.go(13);
-        fill(x, 3, 8, 1, 2);
+        fill(x, 3, 8, new int[] {1, 2});
         x.feed(0x20202020, 4);
         due("it becomes a new one: hour", x.undo(), 0);
         due("no walkers", x.count(1), 0);
@@ -1145,9 +1123,6 @@ public final class EdgeTest {
         judgedToTheFirstThatIsnt();
         imagesOfAllButTapeAndSheets();
         the512thCall();
-        System.out.println(checks + " answers looked at, " + wrong + " wrong");
-        if (wrong != 0) {
-            System.exit(1);
-        }
+        close();
     }
 }

@@ -1,56 +1,8 @@
 /** Each promise of the document by itself: ordinary inputs, its edges, wrong inputs. */
-public final class PromiseTest {
-    private static final int BEYOND = -1000001;
-    private static final int FULL = -1000002;
-    private static final int KIND = -1000003;
-    private static final int NONE = -1000004;
-    private static final int MISSING = -1000006;
-    private static final int SIZE = -1000007;
-    private static final int LEAST = Integer.MIN_VALUE;
-    private static final int MOST = Integer.MAX_VALUE;
-    private static final int WALKER = 0;
-    private static final int CHILD = 1;
-    private static final int CARTER = 2;
-    private static final int HORSE = 3;
-    private static final int RIDER = 4;
-    private static final int THIEF = 5;
-    private static final int RUNNER = 6;
-
-    private static int wrong = 0;
-    private static int checks = 0;
-
-    private static void due(String call, long got, long want) {
-        checks++;
-        if (got != want) {
-            wrong++;
-            System.out.println(call + " answered " + got + ", due is " + want);
-        }
-    }
-
-    private static PrintShore shoreOf(String text) {
-        PrintShore x = new PrintShore();
-        feed(x, text);
-        due("text of '" + text + "' is one", x.text() > 0 ? 1 : 0, 1);
-        return x;
-    }
-
-    private static void feed(PrintShore x, String text) {
-        for (int i = 0; i < text.length(); i++) {
-            x.feed(text.charAt(i), 1);
-        }
-    }
-
-    private static int read(PrintShore x, String text) {
-        feed(x, text);
-        return x.text();
-    }
-
+public final class PromiseTest extends ShoreTest {
     /** A sheet of 8 bits with these numbers. */
     private static void fill(PrintShore x, int s, int... numbers) {
-        x.sheet(s, 8, numbers.length);
-        for (int i = 0; i < numbers.length; i++) {
-            x.write(s, i, numbers[i]);
-        }
+        fill(x, s, 8, numbers);
     }
 
     private static void promise1New() {
@@ -987,9 +939,6 @@ public final class PromiseTest {
         promise40To42Images();
         promise43Count();
         promise44Status();
-        System.out.println(checks + " answers looked at, " + wrong + " wrong");
-        if (wrong != 0) {
-            System.exit(1);
-        }
+        close();
     }
 }
