@@ -22,6 +22,7 @@ public final class ReadmeTest {
     private static final Pattern ANSWERED =
         Pattern.compile("((?:(?:int|long) \\w+ = )?)(shore\\.\\w+\\(.*\\)); +// (-?\\d+)(?::.*|,.*)?");
     private static final Pattern CALL_ROW = Pattern.compile("\\| `(\\w+)\\((.*?)\\)` \\| (.*) \\| (.*)\\|");
+    private static final Pattern KIND_ROW = Pattern.compile("\\| (\\d) \\| (\\w+) \\| (\\w*) ?\\|.*");
     private static final Pattern PROMISE = Pattern.compile("`(?:int|long) (\\w+)\\((.*?)\\)`: (.*)");
 
     private static int wrong = 0;
@@ -158,6 +159,36 @@ public final class ReadmeTest {
         }
     }
 
+    private static int kindOfWord(String word) {
+        PrintShore shore = new PrintShore();
+        for (int i = 0; i < word.length(); i++) {
+            shore.feed(word.charAt(i), 1);
+        }
+        due("'" + word + "' is a text of one item", shore.text(), 1);
+        return shore.of(0, 0);
+    }
+
+    private static boolean isUnder(int kind, int above) {
+        PrintShore shore = new PrintShore();
+        shore.hold(0, shore.walker(kind, 0));
+        return shore.as(0, above) == 0;
+    }
+
+    private static void lookAtKinds(List<String> lines) {
+        int rows = 0;
+        for (String line : lines) {
+            Matcher m = KIND_ROW.matcher(line.strip());
+            if (m.matches()) {
+                rows++;
+                int kind = Integer.parseInt(m.group(1));
+                due("the number of a " + m.group(2), kind, kindOfWord(m.group(2)));
+                String above = m.group(3).isEmpty() ? "walker" : m.group(3);
+                due("a " + m.group(2) + " is under " + above, isUnder(kind, kindOfWord(above)), true);
+            }
+        }
+        due("rows of kinds", rows, 7);
+    }
+
     private static void lookAtTests(List<String> lines) throws IOException {
         due(".ci/run can be run", Files.isExecutable(Path.of(".ci/run")), true);
         for (String directory : List.of("src/test/java", "../shared/tests")) {
@@ -176,6 +207,7 @@ public final class ReadmeTest {
         lookAtExamples(lines);
         lookAtCalls(lines);
         lookAtFindings(lines);
+        lookAtKinds(lines);
         lookAtTests(lines);
         System.out.println(wrong == 0 ? "README.md is as due" : wrong + " faults of README.md");
         if (wrong != 0) {
